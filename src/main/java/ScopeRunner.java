@@ -75,8 +75,9 @@ public final class ScopeRunner {
 
     public int message(int operation, int key, int value) {
         int running = runningWith(key);
-        if (running != NONE) {
-            return instances[running].takeMessage(operation, value) ? running : -1;
+        Instance it = find(running);
+        if (it != null) {
+            return it.takeMessage(operation, value) ? running : -1;
         }
         if (!deployed || made >= MAX_INSTANCES || !plan.startsWith(operation)) {
             return -1;
@@ -162,7 +163,8 @@ public final class ScopeRunner {
 
     private int runningWith(int key) {
         for (int i = 0; i < made; i++) {
-            if (instances[i].key == key && instances[i].outcome == Instance.RUNNING) {
+            Instance it = find(i);
+            if (it != null && it.key == key && it.outcome == Instance.RUNNING) {
                 return i;
             }
         }

@@ -10,12 +10,13 @@ abstract class Case {
 
     static final int UNSET = 0, TRUE = 1, FALSE = 2;
 
+    /** A broken program can make ModelTest print without end. */
+    private static final int MOST_TOLD = 200;
     private static int wrong = 0;
 
     static void due(String what, long got, long want) {
         if (got != want) {
-            wrong++;
-            System.out.println(what + " answered " + got + ", due is " + want);
+            fail(what + " answered " + got + ", due is " + want);
         }
     }
 
@@ -25,7 +26,9 @@ abstract class Case {
 
     static void fail(String what) {
         wrong++;
-        System.out.println(what);
+        if (wrong <= MOST_TOLD) {
+            System.out.println(what);
+        }
     }
 
     /** The latest events of an instance, the oldest of them first, as pairs of event and activity. */
