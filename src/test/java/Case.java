@@ -1,5 +1,7 @@
 /** What the tests share: the document's numbers by name, and the counting of answers that are not due. */
 abstract class Case {
+    static final int LOW = Integer.MIN_VALUE, HIGH = Integer.MAX_VALUE;
+
     static final int EMPTY = 0, ADD = 1, COPY = 2, THROW = 3, RETHROW = 4, RECEIVE = 5, INVOKE = 6, COMPENSATE = 7;
     static final int SEQUENCE = 8, FLOW = 9, IF = 10, WHILE = 11, SCOPE = 12;
 

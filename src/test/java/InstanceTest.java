@@ -1,8 +1,5 @@
 /** Promises 6 to 13 and 16 to 18 on plain processes: messages, steps, answers, ends, and what can be asked. */
 public final class InstanceTest extends Case {
-    private static final int LOW = Integer.MIN_VALUE;
-    private static final int HIGH = Integer.MAX_VALUE;
-
     public static void main(String[] args) {
         atFirst();
         messagesFindInstances();

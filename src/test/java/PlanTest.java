@@ -1,7 +1,17 @@
 /** Promises 1 to 4: a new object, add, join, link. */
 public final class PlanTest extends Case {
-    private static final int LOW = Integer.MIN_VALUE;
-    private static final int HIGH = Integer.MAX_VALUE;
+    /** Kind, p and q, of which p or q is the first that is not allowed on its side, or far from it. */
+    static final int[][] WRONG_NUMBERS = {
+        {ADD, -1, 0}, {ADD, 5, 0}, {ADD, LOW, 0}, {ADD, HIGH, 0},
+        {COPY, -1, 0}, {COPY, 5, 0}, {COPY, 0, -1}, {COPY, 0, 5}, {COPY, LOW, 0}, {COPY, 0, HIGH},
+        {THROW, 0, 0}, {THROW, 100, 0}, {THROW, -1, 0}, {THROW, LOW, 0}, {THROW, HIGH, 0},
+        {RECEIVE, -1, 0}, {RECEIVE, 8, 0}, {RECEIVE, 0, -1}, {RECEIVE, 0, 5}, {RECEIVE, LOW, 0}, {RECEIVE, 0, HIGH},
+        {INVOKE, 0, -1}, {INVOKE, 0, 5}, {INVOKE, 0, LOW}, {INVOKE, 0, HIGH},
+        {COMPENSATE, -1, 0}, {COMPENSATE, 24, 0}, {COMPENSATE, LOW, 0}, {COMPENSATE, HIGH, 0},
+        {IF, -1, 0}, {IF, 5, 0}, {IF, LOW, 0}, {IF, HIGH, 0},
+        {WHILE, -1, 0}, {WHILE, 5, 0}, {WHILE, LOW, 0}, {WHILE, HIGH, 0},
+        {SCOPE, -1, 0}, {SCOPE, 103, 0}, {SCOPE, LOW, 0}, {SCOPE, HIGH, 0},
+    };
 
     public static void main(String[] args) {
         newObject();
@@ -55,29 +65,9 @@ public final class PlanTest extends Case {
     }
 
     private static void numbersOfKinds() {
-        refused(ADD, 5, 0);
-        refused(ADD, -1, 0);
-        refused(COPY, 5, 0);
-        refused(COPY, -1, 0);
-        refused(COPY, 0, 5);
-        refused(COPY, 0, -1);
-        refused(THROW, 0, 0);
-        refused(THROW, 100, 0);
-        refused(THROW, -1, 0);
-        refused(RECEIVE, -1, 0);
-        refused(RECEIVE, 8, 0);
-        refused(RECEIVE, 0, 5);
-        refused(RECEIVE, 0, -1);
-        refused(INVOKE, 0, 5);
-        refused(INVOKE, 0, -1);
-        refused(COMPENSATE, 24, 0);
-        refused(COMPENSATE, -1, 0);
-        refused(IF, 5, 0);
-        refused(IF, -1, 0);
-        refused(WHILE, 5, 0);
-        refused(WHILE, -1, 0);
-        refused(SCOPE, 103, 0);
-        refused(SCOPE, -1, 0);
+        for (int[] numbers : WRONG_NUMBERS) {
+            refused(numbers[0], numbers[1], numbers[2]);
+        }
         refused(-1, 0, 0);
         refused(13, 0, 0);
         refused(LOW, 0, 0);
