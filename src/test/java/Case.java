@@ -63,6 +63,17 @@ abstract class Case {
         return x;
     }
 
+    /** That process with FLOW 3 of EMPTY 4 and an activity 5 of the kind, which has EMPTY 6 and 7. */
+    static ScopeRunner flowWith(int kind, int p, int q) {
+        ScopeRunner x = process();
+        add(x, 3, 1, 0, FLOW, 0, 0);
+        add(x, 4, 3, 0, EMPTY, 0, 0);
+        add(x, 5, 3, 0, kind, p, q);
+        add(x, 6, 5, 0, EMPTY, 0, 0);
+        add(x, 7, 5, 0, EMPTY, 0, 0);
+        return x;
+    }
+
     static void add(ScopeRunner x, int number, int parent, int role, int kind, int p, int q) {
         due("add of " + number, x.add(parent, role, kind, p, q), number);
     }

@@ -12,8 +12,12 @@ public final class InstanceTest extends Case {
         answers();
         answersThatAreRefused();
         twoReceives();
+        receivesOneAfterAnother();
+        receiveAfterATerminatedOne();
+        flowOfOne();
         terminates();
         eventsAreTold();
+        askedOfEachKind();
         wrongNumbers();
         end("InstanceTest");
     }
@@ -32,6 +36,7 @@ public final class InstanceTest extends Case {
         due("at first: event", x.event(0, 0), -1);
         due("at first: next", x.next(0), 0);
         due("at first: kept", x.kept(0, 0), 0);
+        due("at first: own", x.own(0, 0), 0);
         due("at first: first step", x.run(0, 1), 1);
         dueStatuses("one step", x, 0, RUNNING, OPEN, IDLE);
         due("one step: next", x.next(0), 1);
@@ -286,6 +291,55 @@ public final class InstanceTest extends Case {
         due("two receives: state", x.state(0), 111);
     }
 
+    /** RECEIVE 3 and 4 of the same operation: when 4 opens, 3 is DONE. */
+    private static void receivesOneAfterAnother() {
+        ScopeRunner x = process();
+        add(x, 3, 1, 0, RECEIVE, 1, 1);
+        add(x, 4, 1, 0, RECEIVE, 1, 2);
+        deployed("one after another", x);
+        x.message(0, 0, 0);
+        due("one after another: run", x.run(0, 50), 4);
+        due("one after another: first", x.message(1, 0, 11), 0);
+        due("one after another: run on", x.run(0, 50), 1);
+        due("one after another: waits", x.status(0, 4), WAITING);
+        due("one after another: second", x.message(1, 0, 12), 0);
+        due("one after another: value of the first", x.variable(0, 1), 11);
+        due("one after another: value of the second", x.variable(0, 2), 12);
+        due("one after another: state", x.state(0), 1);
+    }
+
+    /** RECEIVE 4 was WAITING when INVOKE 5 faulted; the root's handler RECEIVE 6 waits for the same operation. */
+    private static void receiveAfterATerminatedOne() {
+        ScopeRunner x = process();
+        add(x, 3, 1, 0, FLOW, 0, 0);
+        add(x, 4, 3, 0, RECEIVE, 1, 1);
+        add(x, 5, 3, 0, INVOKE, 0, 1);
+        add(x, 6, 0, 1, RECEIVE, 1, 2);
+        deployed("after a terminated one", x);
+        x.message(0, 0, 0);
+        due("after a terminated one: run", x.run(0, 50), 6);
+        due("after a terminated one: fault", x.answer(0, 5, 1, 0), true);
+        due("after a terminated one: not yet", x.message(1, 0, 10), -1);
+        due("after a terminated one: run on", x.run(0, 50), 1);
+        due("after a terminated one: 4", x.status(0, 4), IS_TERMINATED);
+        due("after a terminated one: 6", x.status(0, 6), WAITING);
+        due("after a terminated one: message", x.message(1, 0, 11), 0);
+        due("after a terminated one: value", x.variable(0, 2), 11);
+        due("after a terminated one: not for 4", x.variable(0, 1), 0);
+        due("after a terminated one: state", x.state(0), 1);
+    }
+
+    private static void flowOfOne() {
+        ScopeRunner x = process();
+        add(x, 3, 1, 0, FLOW, 0, 0);
+        add(x, 4, 3, 0, EMPTY, 0, 0);
+        add(x, 5, 1, 0, EMPTY, 0, 0);
+        deployed("flow of one", x);
+        x.message(0, 0, 0);
+        due("flow of one: run", x.run(0, 50), 6);
+        dueEvents("flow of one", x, 0, STARTED, 3, STARTED, 4, DONE, 4, DONE, 3, STARTED, 5, DONE, 5, DONE, 1, DONE, 0);
+    }
+
     private static void terminates() {
         ScopeRunner x = withInvoke();
         due("terminate: instance 1", x.terminate(1), false);
@@ -331,6 +385,33 @@ public final class InstanceTest extends Case {
         x.run(1, 2);
         due("few events: 1", x.event(1, 1), 32 * STARTED);
         due("few events: 2", x.event(1, 2), -1);
+    }
+
+    /** Own variables and lists are those of a SCOPE; of every other kind there is no such scope. */
+    private static void askedOfEachKind() {
+        ScopeRunner x = new ScopeRunner();
+        add(x, 0, -1, 0, SCOPE, 0, 0);
+        add(x, 1, 0, 0, SEQUENCE, 0, 0);
+        add(x, 2, 1, 0, RECEIVE, 0, 4);
+        add(x, 3, 0, 1, SEQUENCE, 0, 0);
+        add(x, 4, 3, 0, RETHROW, 0, 0);
+        add(x, 5, 3, 0, COMPENSATE, 0, 0);
+        int[] parents = {FLOW, IF, WHILE, SCOPE};
+        for (int i = 0; i < parents.length; i++) {
+            add(x, 6 + 2 * i, 1, 0, parents[i], 4, 1);
+            add(x, 7 + 2 * i, 6 + 2 * i, 0, i == 3 ? ADD : EMPTY, 4, 9);
+        }
+        int[] leaves = {ADD, COPY, INVOKE, THROW};
+        for (int i = 0; i < leaves.length; i++) {
+            add(x, 14 + i, 1, 0, leaves[i], 1, 1);
+        }
+        deployed("each kind", x);
+        x.message(0, 0, 8);
+        x.run(0, 50);
+        for (int a = 0; a < 18; a++) {
+            due("each kind: own of " + a, x.own(0, a), a == 0 ? 8 : a == 12 ? 9 : 0);
+            due("each kind: kept of " + a, x.kept(0, a), a == 0 ? 1 : a == 12 ? 0 : -1);
+        }
     }
 
     private static void wrongNumbers() {

@@ -5,6 +5,8 @@ public final class LimitsTest extends Case {
         lastOf512RefusedCalls();
         lastOf512CallsOnEightInstances();
         startIsTheLastOf24();
+        receiveIsTheLastOf24();
+        fullProcessInAWhile();
         faultThrough24();
         nestedEntriesAreFull();
         failedEntriesThroughSixteenScopes();
@@ -98,6 +100,61 @@ public final class LimitsTest extends Case {
             due("last of 24: event " + k, x.event(0, k), 32 * DONE + k);
         }
         due("last of 24: state", x.state(0), 1);
+    }
+
+    /** RECEIVE 23 is the one that waits; no other message is taken. */
+    private static void receiveIsTheLastOf24() {
+        ScopeRunner x = process();
+        add(x, 3, 1, 0, FLOW, 0, 0);
+        for (int a = 4; a <= 22; a++) {
+            add(x, a, 3, 0, a == 22 ? INVOKE : EMPTY, 0, 2);
+        }
+        add(x, 23, 3, 0, RECEIVE, 7, 1);
+        deployed("receive 23", x);
+        due("receive 23: message", x.message(0, 0, 0), 0);
+        due("receive 23: nobody waits", x.message(7, 0, 1), -1);
+        due("receive 23: run", x.run(0, 50), 24);
+        due("receive 23: another operation", x.message(6, 0, 1), -1);
+        due("receive 23: START's operation", x.message(0, 0, 1), -1);
+        due("receive 23: taken", x.message(7, 0, 99), 0);
+        due("receive 23: value", x.variable(0, 1), 99);
+        due("receive 23: the flow is not done", x.status(0, 3), RUNNING);
+        due("receive 23: the invoke", x.answer(0, 22, 0, 98), true);
+        due("receive 23: value of the answer", x.variable(0, 2), 98);
+        due("receive 23: state", x.state(0), 1);
+    }
+
+    /** 24 activities and 16 links: twice in WHILE 3, FLOW 4 of ADD 5, linked to EMPTY 6 to 21, and EMPTY 22 and 23. */
+    private static void fullProcessInAWhile() {
+        ScopeRunner x = process();
+        add(x, 3, 1, 0, WHILE, 1, 2);
+        add(x, 4, 3, 0, FLOW, 0, 0);
+        add(x, 5, 4, 0, ADD, 1, 1);
+        for (int a = 6; a <= 23; a++) {
+            add(x, a, 4, 0, EMPTY, 0, 0);
+        }
+        for (int l = 0; l < 16; l++) {
+            due("full: link " + l, x.link(5, 6 + l, 1, 2), l);
+        }
+        deployed("full", x);
+        due("full: message", x.message(0, 0, 0), 0);
+        due("full: first round", x.run(0, 24), 24);
+        due("full: AGAIN", x.status(0, 3), AGAIN);
+        dueLinks("full: first round", x, TRUE);
+        due("full: second round begins", x.run(0, 1), 1);
+        dueLinks("full: second round begins", x, UNSET);
+        due("full: status of 23", x.status(0, 23), IDLE);
+        due("full: second round", x.run(0, 50), 21);
+        dueLinks("full: second round", x, FALSE);
+        due("full: status of 21", x.status(0, 21), IS_SKIPPED);
+        due("full: status of 23", x.status(0, 23), IS_DONE);
+        due("full: state", x.state(0), 1);
+    }
+
+    private static void dueLinks(String what, ScopeRunner x, int want) {
+        for (int l = 0; l < 16; l++) {
+            due(what + ": state of link " + l, x.linkState(0, l), want);
+        }
     }
 
     /** Scopes 3 to 22, each the body of the one before, and the given kind as the body of the last. */

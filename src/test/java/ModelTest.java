@@ -3,10 +3,18 @@ import java.util.List;
 
 /** Promises 2 to 18, by many made-up processes and calls: ScopeRunner and Model always answer the same. */
 public final class ModelTest extends Case {
-    private static final int PROCESSES = 6000;
+    private static final int PROCESSES = 10000;
+    private static final int ACTIONS = 120;
+    private static final int QUESTIONS = 12;
+    /** An object answers so many calls at most, so each question is put to one of a few twins. */
+    private static final int MOST_CALLS = 512;
+    private static final int TWINS = 6;
     private static long seed;
 
-    private final ScopeRunner x = new ScopeRunner();
+    private final ScopeRunner[] twins = new ScopeRunner[TWINS];
+    private final int[] used = new int[TWINS];
+    private int turn;
+    private int actionsLeft = ACTIONS;
     private final Model m = new Model();
     private final int number;
     private final boolean wild;
@@ -16,6 +24,9 @@ public final class ModelTest extends Case {
         this.number = number;
         this.wild = number % 5 == 0;
         seed = number * 7919L + 17;
+        for (int i = 0; i < TWINS; i++) {
+            twins[i] = new ScopeRunner();
+        }
     }
 
     public static void main(String[] args) {
@@ -51,15 +62,32 @@ public final class ModelTest extends Case {
         return pick(100) < percent;
     }
 
-    private void same(String what, long got, long want) {
-        due("process " + number + ": " + what, got, want);
+    private void ask(int twin, Call call, long want) {
+        used[twin]++;
+        long got = call.on(twins[twin]);
+        if (got != want) {
+            due("process " + number + ": " + call.name(), got, want);
+        }
+    }
+
+    private void act(Call call, long want) {
+        for (int i = 0; i < TWINS; i++) {
+            ask(i, call, want);
+        }
+    }
+
+    private void askOne(Call call, long want) {
+        turn = (turn + 1) % TWINS;
+        if (used[turn] + actionsLeft < MOST_CALLS) {
+            ask(turn, call, want);
+        }
     }
 
     // ---- making a process
 
     private int put(int parent, int role, int kind, int p, int q) {
         int want = m.add(parent, role, kind, p, q);
-        same("add(" + parent + ", " + role + ", " + kind + ", " + p + ", " + q + ")", x.add(parent, role, kind, p, q), want);
+        act(Call.add(parent, role, kind, p, q), want);
         calls.add(new int[] {parent, role, kind, p, q});
         return want;
     }
@@ -82,10 +110,10 @@ public final class ModelTest extends Case {
         for (int a = 0; a < m.activities.size(); a++) {
             if (chance(30)) {
                 int mode = pick(wild ? 5 : 4);
-                same("join(" + a + ", " + mode + ")", x.join(a, mode) ? 1 : 0, m.join(a, mode) ? 1 : 0);
+                act(Call.join(a, mode), m.join(a, mode) ? 1 : 0);
             }
         }
-        same("deploy()", x.deploy(), m.deploy());
+        act(Call.deploy(), m.deploy());
     }
 
     /** Scopes in scopes beside something that may fault late: growing at random seldom makes this. */
@@ -189,7 +217,7 @@ public final class ModelTest extends Case {
             case 0 -> put(parent.number, role, EMPTY, 0, 0);
             case 1, 2 -> put(parent.number, role, ADD, pick(5), 1 + pick(2));
             case 4 -> put(parent.number, role, COPY, pick(5), pick(5));
-            case 5 -> put(parent.number, role, chance(60) ? RECEIVE : EMPTY, pick(4), pick(5));
+            case 5 -> put(parent.number, role, chance(90) ? RECEIVE : EMPTY, pick(3), pick(5));
             case 3, 6 -> put(parent.number, role, INVOKE, 0, pick(5));
             case 7 -> put(parent.number, role, THROW, 1 + pick(4), 0);
             default -> put(parent.number, role, inFaultHandler || wild && chance(5) ? RETHROW : ADD, pick(5), 1);
@@ -213,8 +241,7 @@ public final class ModelTest extends Case {
             int[] link = {pick(n), pick(n), chance(50) ? -1 : pick(5), pick(6) - 1};
             if (wild && chance(2) || mayLink(links, link)) {
                 links.add(link);
-                same("link(" + link[0] + ", " + link[1] + ", ..)", x.link(link[0], link[1], link[2], link[3]),
-                    m.link(link[0], link[1], link[2], link[3]));
+                act(Call.link(link[0], link[1], link[2], link[3]), m.link(link[0], link[1], link[2], link[3]));
             }
         }
     }
@@ -234,72 +261,105 @@ public final class ModelTest extends Case {
     // ---- using it
 
     private void use() {
-        for (int i = 0; i < 120; i++) {
-            call();
-            compare();
+        while (actionsLeft > 0) {
+            actionsLeft--;
+            int instance = pick(m.instances.size() + 1) - (chance(5) ? 1 : 0);
+            int before = eventsOf(instance);
+            action(instance);
+            askAfterAction(instance, before);
+        }
+        for (int i = 0; i < TWINS; i++) {
+            due("process " + number + ": calls on a twin are " + used[i], used[i] <= MOST_CALLS, true);
         }
     }
 
-    private void call() {
-        int instance = pick(m.instances.size() + 1) - (chance(5) ? 1 : 0);
-        int n = m.activities.size();
+    private int eventsOf(int instance) {
+        return instance >= 0 && instance < m.instances.size() ? m.instances.get(instance).events.size() : 0;
+    }
+
+    private void action(int instance) {
         switch (pick(10)) {
             case 0, 1 -> {
                 int operation = pick(4);
                 int key = pick(5);
                 int value = pick(4) - 1;
-                String what = "message(" + operation + ", " + key + ", " + value + ")";
-                same(what, x.message(operation, key, value), m.message(operation, key, value));
+                act(Call.message(operation, key, value), m.message(operation, key, value));
             }
-            case 2, 3 -> answerSome(instance, n);
+            case 2, 3 -> {
+                int a = invoke(instance);
+                int fault = chance(70) ? 0 : chance(90) ? 1 + pick(4) : pick(130) - 10;
+                int value = pick(5);
+                act(Call.answer(instance, a, fault, value), m.answer(instance, a, fault, value) ? 1 : 0);
+            }
             case 4 -> {
                 if (chance(6)) {
-                    same("terminate(" + instance + ")", x.terminate(instance) ? 1 : 0, m.terminate(instance) ? 1 : 0);
+                    act(Call.terminate(instance), m.terminate(instance) ? 1 : 0);
                 }
             }
             default -> {
-                int steps = chance(50) ? 1 + pick(4) : pick(53);
-                same("run(" + instance + ", " + steps + ")", x.run(instance, steps), m.run(instance, steps));
+                int n = chance(50) ? 1 + pick(4) : pick(53);
+                act(Call.run(instance, n), m.run(instance, n));
             }
         }
     }
 
-    private void answerSome(int instance, int n) {
+    /** An INVOKE that is WAITING, if there is one; sometimes any activity, or none. */
+    private int invoke(int instance) {
+        int n = m.activities.size();
         int from = pick(n + 2) - 1;
-        for (int i = 0; i < n; i++) {
-            int a = (from + i) % n;
-            int fault = chance(70) ? 0 : chance(90) ? 1 + pick(4) : pick(130) - 10;
-            int value = pick(5);
-            boolean want = m.answer(instance, a, fault, value);
-            same("answer(" + instance + ", " + a + ", " + fault + ", " + value + ")", x.answer(instance, a, fault, value) ? 1 : 0, want ? 1 : 0);
-            if (want) {
+        for (int i = 0; i < n && instance >= 0 && instance < m.instances.size() && !chance(1); i++) {
+            int a = (from + i + n) % n;
+            if (m.activities.get(a).kind == INVOKE && m.instances.get(instance).status[a] == WAITING) {
+                return a;
+            }
+        }
+        return from;
+    }
+
+    private void askAfterAction(int touched, int eventsBefore) {
+        askOne(Call.state(m.instances.size()), -1);
+        for (int k = Math.min(eventsOf(touched) - eventsBefore, 6) - 1; k >= 0; k--) {
+            askOne(Call.event(touched, k), m.event(touched, k));
+        }
+        for (int i = 0; i < QUESTIONS && !m.instances.isEmpty(); i++) {
+            int any = pick(m.instances.size());
+            boolean there = touched >= 0 && touched < m.instances.size();
+            askOf(there && chance(60) ? touched : any, i);
+        }
+    }
+
+    private void askOf(int i, int question) {
+        Model.Instance it = m.instances.get(i);
+        int a = pick(m.activities.size());
+        switch (question) {
+            case 0 -> askOne(Call.state(i), it.state);
+            case 1 -> askOne(Call.next(i), m.next(i));
+            case 2 -> askOne(Call.events(i), it.events.size());
+            case 3 -> {
+                int k = pick(4);
+                askOne(Call.variable(i, k), it.variables[k]);
+            }
+            case 4 -> askOne(Call.own(i, a), m.own(i, a));
+            case 5 -> askScope(i);
+            case 6 -> {
+                int k = pick(35) - 1;
+                askOne(Call.event(i, k), m.event(i, k));
+            }
+            case 7, 8 -> {
+                int l = pick(17);
+                askOne(Call.linkState(i, l), l < m.links.size() ? it.link[l] : -1);
+            }
+            default -> askOne(Call.status(i, a), it.status[a]);
+        }
+    }
+
+    private void askScope(int i) {
+        for (int tries = 0; tries < 4; tries++) {
+            int a = pick(m.activities.size());
+            if (m.activities.get(a).kind == SCOPE || tries == 3) {
+                askOne(Call.kept(i, a), m.kept(i, a));
                 return;
             }
         }
-    }
-
-    private void compare() {
-        for (int i = 0; i < m.instances.size(); i++) {
-            Model.Instance it = m.instances.get(i);
-            String in = "in instance " + i + " ";
-            same(in + "state", x.state(i), it.state);
-            same(in + "events", x.events(i), it.events.size());
-            same(in + "next", x.next(i), m.next(i));
-            for (int a = 0; a < m.activities.size(); a++) {
-                same(in + "status " + a, x.status(i, a), it.status[a]);
-                same(in + "own " + a, x.own(i, a), m.own(i, a));
-                same(in + "kept " + a, x.kept(i, a), m.kept(i, a));
-            }
-            for (int l = 0; l < m.links.size(); l++) {
-                same(in + "link " + l, x.linkState(i, l), it.link[l]);
-            }
-            for (int k = 0; k < 4; k++) {
-                same(in + "variable " + k, x.variable(i, k), it.variables[k]);
-            }
-            for (int k = -1; k <= 32; k++) {
-                same(in + "event " + k, x.event(i, k), m.event(i, k));
-            }
-        }
-        same("state of the next instance", x.state(m.instances.size()), -1);
     }
 }

@@ -3,14 +3,19 @@ public final class ScopeTest extends Case {
     public static void main(String[] args) {
         caughtByNumber();
         notCaught();
+        undoHandlerCatchesNothing();
+        bodyIsTheFirstPlainChild();
         faultHandlerCompletesWithoutEntry();
         rethrow();
         faultInAFaultHandler();
+        handlersAreRenewedByAWhile();
         concurrentPartsEnd();
         entriesAreKept();
         entriesHoldEntries();
         failingUndoesLatestFirst();
         compensateOneScope();
+        compensateAllOfOneScope();
+        compensateWithNothingToUndo();
         handlerWithoutCompensate();
         undoSeesItsOwnVariable();
         undoneScopeWithoutHandlerUndoesItsList();
@@ -19,6 +24,8 @@ public final class ScopeTest extends Case {
         failedUndoOfAFailingScope();
         failedUndoThroughAnUndoingScope();
         failedUndoOfACompensate();
+        failedUndoThroughAnUndoingScopeOfACompensate();
+        failedCompensateIsCaughtFurtherOut();
         terminatedScopesGiveTheirEntries();
         terminatedWhileUndoing();
         terminatedWhileBusyAndRunAgain();
@@ -74,6 +81,44 @@ public final class ScopeTest extends Case {
         due("not caught: not handled", x.variable(0, 1), 0);
     }
 
+    /** Scope 3 has an undo handler alone; the fault of its body goes up, and the undo handler never runs. */
+    private static void undoHandlerCatchesNothing() {
+        ScopeRunner x = process();
+        add(x, 3, 1, 0, SCOPE, 0, 0);
+        add(x, 4, 3, 0, THROW, 7, 0);
+        add(x, 5, 3, 2, ADD, 1, 1);
+        deployed("undo handler alone", x);
+        x.message(0, 0, 0);
+        due("undo handler alone: to the throw", x.run(0, 5), 5);
+        due("undo handler alone: status", x.status(0, 3), FAILING);
+        due("undo handler alone: to the end", x.run(0, 50), 2);
+        dueEvents("undo handler alone", x, 0, STARTED, 4, FAULTED, 4, FAULTED, 3, TERMINATED, 1, FAULTED, 0);
+        due("undo handler alone: handler", x.status(0, 5), IDLE);
+        due("undo handler alone: state", x.state(0), 17);
+    }
+
+    /** The handlers of scope 3 have lower numbers than its body. */
+    private static void bodyIsTheFirstPlainChild() {
+        ScopeRunner x = process();
+        add(x, 3, 1, 0, SCOPE, 0, 0);
+        add(x, 4, 3, 2, ADD, 1, 1);
+        add(x, 5, 3, 1, ADD, 2, 1);
+        add(x, 6, 3, 0, INVOKE, 0, 3);
+        deployed("body", x);
+        x.message(0, 0, 0);
+        x.message(0, 1, 0);
+        due("body: run", x.run(0, 50), 5);
+        dueStatuses("body", x, 0, RUNNING, RUNNING, IS_DONE, RUNNING, IDLE, IDLE, WAITING);
+        due("body: answer", x.answer(0, 6, 0, 1), true);
+        dueStatuses("body: completed", x, 0, IS_DONE, IS_DONE, IS_DONE, IS_DONE, IDLE, IDLE, IS_DONE);
+        due("body: run 1", x.run(1, 50), 5);
+        due("body: fault", x.answer(1, 6, 1, 1), true);
+        due("body: the fault handler", x.next(1), 5);
+        due("body: to the end", x.run(1, 50), 1);
+        due("body: handled", x.variable(1, 2), 1);
+        due("body: state", x.state(1), 1);
+    }
+
     private static void faultHandlerCompletesWithoutEntry() {
         ScopeRunner x = throwing(0, 1);
         x.run(0, 7);
@@ -124,6 +169,23 @@ public final class ScopeTest extends Case {
         due("handler faults: to the end", x.run(0, 50), 1);
         due("handler faults: state", x.state(0), 19);
         due("handler faults: not undone", x.status(0, 5), IS_DONE);
+    }
+
+    /** In WHILE 3 scope 4 faults and ADD 6 handles it, twice; below it all is IDLE when the second round begins. */
+    private static void handlersAreRenewedByAWhile() {
+        ScopeRunner x = process();
+        add(x, 3, 1, 0, WHILE, 1, 2);
+        add(x, 4, 3, 0, SCOPE, 0, 0);
+        add(x, 5, 4, 0, THROW, 1, 0);
+        add(x, 6, 4, 1, ADD, 1, 1);
+        deployed("renewed by a while", x);
+        x.message(0, 0, 0);
+        due("renewed by a while: to the end of a round", x.run(0, 7), 7);
+        dueStatuses("renewed by a while: round", x, 0, RUNNING, RUNNING, IS_DONE, AGAIN, IS_DONE, IS_FAULTED, IS_DONE);
+        due("renewed by a while: again", x.run(0, 1), 1);
+        dueStatuses("renewed by a while", x, 0, RUNNING, RUNNING, IS_DONE, RUNNING, OPEN, IDLE, IDLE);
+        due("renewed by a while: to the end", x.run(0, 50), 4);
+        due("renewed by a while: state", x.state(0), 1);
     }
 
     private static void concurrentPartsEnd() {
@@ -274,6 +336,59 @@ public final class ScopeTest extends Case {
         due("compensate: state", x.state(0), 1);
     }
 
+    /** WHILE 3 lets scopes 5 and 8 complete twice, in turn; COMPENSATE 12 undoes those of scope 5, the latest first. */
+    private static void compensateAllOfOneScope() {
+        ScopeRunner x = process();
+        add(x, 3, 1, 0, WHILE, 1, 2);
+        add(x, 4, 3, 0, SEQUENCE, 0, 0);
+        add(x, 5, 4, 0, SCOPE, 0, 0);
+        add(x, 6, 5, 0, COPY, 4, 1);
+        add(x, 7, 5, 2, COPY, 2, 4);
+        add(x, 8, 4, 0, SCOPE, 0, 0);
+        add(x, 9, 8, 0, ADD, 1, 1);
+        add(x, 10, 1, 0, THROW, 1, 0);
+        add(x, 11, 0, 1, SEQUENCE, 0, 0);
+        add(x, 12, 11, 0, COMPENSATE, 5, 0);
+        add(x, 13, 11, 0, INVOKE, 0, 0);
+        deployed("all of one", x);
+        x.message(0, 0, 0);
+        due("all of one: to the handler", x.run(0, 19), 19);
+        due("all of one: kept", x.kept(0, 0), 4);
+        due("all of one: next", x.next(0), 12);
+        due("all of one: first", x.run(0, 2), 2);
+        due("all of one: the latest", x.variable(0, 2), 1);
+        due("all of one: kept after the first", x.kept(0, 0), 3);
+        due("all of one: second", x.run(0, 2), 2);
+        due("all of one: the one before", x.variable(0, 2), 0);
+        due("all of one: no third", x.run(0, 50), 2);
+        due("all of one: the others stay", x.kept(0, 0), 2);
+        dueEvents("all of one", x, 0, UNDO, 5, STARTED, 7, DONE, 7, UNDONE, 5, UNDO, 5, STARTED, 7, DONE, 7, UNDONE, 5, DONE, 12,
+            STARTED, 13);
+        due("all of one: 8 is not undone", x.status(0, 8), IS_DONE);
+    }
+
+    /** COMPENSATE 7 finds an empty list, or none but an entry of another scope. */
+    private static void compensateWithNothingToUndo() {
+        for (int turn = 0; turn < 3; turn++) {
+            ScopeRunner x = process();
+            add(x, 3, 1, 0, SCOPE, 0, 0);
+            add(x, 4, 3, 0, turn == 0 ? THROW : EMPTY, 1, 0);
+            add(x, 5, 1, 0, SCOPE, 0, 0);
+            add(x, 6, 5, 0, THROW, 1, 0);
+            add(x, 7, 0, 1, COMPENSATE, turn == 2 ? 5 : 0, 0);
+            deployed("nothing to undo", x);
+            x.message(0, 0, 0);
+            String what = "nothing to undo, turn " + turn;
+            due(what + ": to the compensate", x.run(0, turn == 0 ? 7 : 9), turn == 0 ? 7 : 9);
+            due(what + ": status", x.status(0, 7), UNDOING);
+            due(what + ": kept", x.kept(0, 0), turn == 0 ? 0 : 1);
+            due(what + ": on", x.run(0, 1), 1);
+            due(what + ": then", x.status(0, 7), turn == 1 ? UNDOING : IS_DONE);
+            due(what + ": 3", x.status(0, 3), turn == 0 ? IS_FAULTED : turn == 1 ? UNDOING : IS_DONE);
+            due(what + ": state", x.state(0), turn == 1 ? 0 : 1);
+        }
+    }
+
     /** Scope 3 around 5 with an undo handler each; 3's handler has no COMPENSATE, so 5 is not undone. */
     private static void handlerWithoutCompensate() {
         for (int turn = 0; turn < 2; turn++) {
@@ -415,6 +530,54 @@ public final class ScopeTest extends Case {
             FAULTED, 7, FAULTED, 11, TERMINATED, 10, FAULTED, 3, FAULTED, 14, TERMINATED, 13, FAULTED, 0);
         due("compensate fails: 5 is dropped", x.kept(0, 3), 0);
         due("compensate fails: state", x.state(0), 16);
+    }
+
+    /** The root's COMPENSATE 11 undoes 3, which has no undo handler and undoes 7, whose undo handler THROW 10 faults. */
+    private static void failedUndoThroughAnUndoingScopeOfACompensate() {
+        ScopeRunner x = nested();
+        add(x, 10, 7, 2, THROW, 6, 0);
+        add(x, 11, 0, 1, COMPENSATE, 3, 0);
+        deployed("through to a compensate", x);
+        x.message(0, 0, 0);
+        runAll(x, 0);
+        x.answer(0, 9, 2, 0);
+        due("through to a compensate: run", x.run(0, 50), 4);
+        dueEvents("through to a compensate", x, 0, CAUGHT, 0, STARTED, 11, UNDO, 3, UNDO, 7, STARTED, 10, FAULTED, 10, FAULTED, 7,
+            FAULTED, 3, FAULTED, 11, FAULTED, 0);
+        due("through to a compensate: 5 is dropped", x.kept(0, 3), 0);
+        due("through to a compensate: 5 is not undone", x.status(0, 5), IS_DONE);
+        due("through to a compensate: state", x.state(0), 16);
+    }
+
+    /**
+     * In scope 3 (which catches 6, by ADD 13) scope 5 handles fault 2 by COMPENSATE 11, which undoes 7; the undo handler
+     * THROW 9 raises 6, so the COMPENSATE and scope 5 fault with 6, and 3 catches that.
+     */
+    private static void failedCompensateIsCaughtFurtherOut() {
+        for (int caught : new int[] {6, 2}) {
+            ScopeRunner x = process();
+            add(x, 3, 1, 0, SCOPE, caught, 0);
+            add(x, 4, 3, 0, SEQUENCE, 0, 0);
+            add(x, 5, 4, 0, SCOPE, 2, 0);
+            add(x, 6, 5, 0, SEQUENCE, 0, 0);
+            add(x, 7, 6, 0, SCOPE, 0, 0);
+            add(x, 8, 7, 0, EMPTY, 0, 0);
+            add(x, 9, 7, 2, THROW, 6, 0);
+            add(x, 10, 6, 0, THROW, 2, 0);
+            add(x, 11, 5, 1, COMPENSATE, 0, 0);
+            add(x, 12, 4, 0, EMPTY, 0, 0);
+            add(x, 13, 3, 1, ADD, 1, 1);
+            deployed("caught further out", x);
+            x.message(0, 0, 0);
+            due("caught further out: to the throw", x.run(0, 12), 12);
+            dueEvents("caught further out", x, 0, STARTED, 10, FAULTED, 10, TERMINATED, 6, CAUGHT, 5, STARTED, 11, UNDO, 7);
+            due("caught further out: the handler", x.run(0, 1), 1);
+            dueStatuses("caught further out", x, 0, RUNNING, RUNNING, IS_DONE, caught == 6 ? HANDLING : FAILING, IS_TERMINATED,
+                IS_FAULTED, IS_TERMINATED, IS_FAULTED, IS_DONE, IS_FAULTED, IS_FAULTED, IS_FAULTED, IDLE, caught == 6 ? OPEN : IDLE);
+            x.run(0, 50);
+            due("caught further out: state", x.state(0), caught == 6 ? 1 : 16);
+            due("caught further out: handled", x.variable(0, 1), caught == 6 ? 1 : 0);
+        }
     }
 
     /**
