@@ -8,7 +8,9 @@ import java.nio.file.Path;
 import java.util.ArrayList;
 import java.util.Arrays;
 import java.util.List;
+import java.util.Map;
 import java.util.Set;
+import java.util.TreeMap;
 import java.util.TreeSet;
 import java.util.regex.Matcher;
 import java.util.regex.Pattern;
@@ -106,10 +108,18 @@ public final class LanguageTest extends Case {
         while (made.find()) {
             due("rule 3: an object of " + made.group(1), known.contains(made.group(1)), true);
         }
-        methodLengths(text.split("\n"));
+        Map<String, String> bodies = methods(text.split("\n"));
+        for (String name : bodies.keySet()) {
+            due("rules 8 and 11: calls from " + name + " go at most eight deep", depth(name, bodies, 1) <= 8, true);
+            boolean makes = bodies.get(name).contains("new ");
+            boolean mayMake = name.equals("message") || Character.isUpperCase(name.charAt(0));
+            due("rule 12: " + name + " makes objects", makes && !mayMake, false);
+        }
     }
 
-    private static void methodLengths(String[] lines) {
+    /** What stands in each method, by its name (methods of one name together, so that no call is missed). */
+    private static Map<String, String> methods(String[] lines) {
+        Map<String, String> bodies = new TreeMap<>();
         int begin = -1;
         String indent = "";
         for (int i = 0; i < lines.length; i++) {
@@ -119,8 +129,22 @@ public final class LanguageTest extends Case {
                 indent = line.substring(0, line.length() - line.stripLeading().length());
             } else if (begin >= 0 && line.equals(indent + "}")) {
                 due("rule 11: lines of" + lines[begin], i - begin + 1 <= 60, true);
+                String name = lines[begin].replaceAll("\\(.*", "").replaceAll(".* ", "");
+                bodies.merge(name, String.join("\n", Arrays.asList(lines).subList(begin + 1, i)), String::concat);
                 begin = -1;
             }
         }
+        return bodies;
+    }
+
+    private static int depth(String name, Map<String, String> bodies, int level) {
+        int deepest = level;
+        Matcher call = Pattern.compile("\\b(\\w+)\\(").matcher(bodies.get(name));
+        while (call.find() && deepest <= 8) {
+            if (bodies.containsKey(call.group(1))) {
+                deepest = Math.max(deepest, depth(call.group(1), bodies, level + 1));
+            }
+        }
+        return deepest;
     }
 }
